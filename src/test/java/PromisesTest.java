@@ -541,7 +541,10 @@ public final class PromisesTest {
     }
     due(x.same(both, 3), BAD);
     OddsSampling y = twelveFacts();
-    due(y.same(y.set(4095, 0), y.set(4094, 0)), 0);
+    // One world makes the difference: the last one, the first one.
+    int never = y.set(1, 1);
+    due(y.same(never, y.set(4095, 0)), 0);
+    due(y.same(never, y.set(0, 4095)), 0);
     due(y.same(y.set(0, 4095), y.some(4095, -1, 0)), 1);
   }
 
